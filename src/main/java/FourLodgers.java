@@ -568,8 +568,8 @@ public final class FourLodgers {
             return code >= '0' && code < '0' + WIDTH;
         }
 
+        /** A row with no CELL left for a ROCK is no fault yet: the document names the second digit. */
         private boolean takesRow(int code) {
-            whole = false;
             if (!isSide(code)) {
                 return false;
             }

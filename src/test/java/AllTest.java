@@ -26,8 +26,8 @@ public final class AllTest {
         x.day();
         x.sail(1, 3);
         x.hire();
-        x.see(1, 1, false);
         x.forget();
+        x.see(1, 1, false);
         x.see(2, 2, false);
         due.isTrue("it is another now", x.digest() != first);
         due.is("restore()", x.restore(), 3);
@@ -107,6 +107,14 @@ public final class AllTest {
         x.see(0, 3, true);
         Due.write(x, "xyz");
         due.is("by calls", x.digest(), byCalls(x, "xyz"));
+        String[] texts = {"l0l9p0s9;00;55", "s0s0g7g7;05,50;22,33", "p0l9l9p0;55,01,10;00,54", "l7l0l6l5;33,20;31,05"};
+        for (String text : texts) {
+            FourLodgers each = Due.sea(text);
+            for (int day = 0; day < 9; day++) {
+                due.is("by calls, " + text + " on day " + day, each.digest(), byCalls(each, ""));
+                each.day();
+            }
+        }
         // the lodgers, the ship, the cells, the counts, all told by hand
         FourLodgers y = Due.sea("f0f0f0f0;00;55");
         long[] told = {3, 0, 1, 31, 0, 28, 3, 0, 1, 31, 0, 28, 3, 0, 1, 31, 0, 28, 3, 0, 1, 31, 0, 28,

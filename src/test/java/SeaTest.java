@@ -147,7 +147,7 @@ public final class SeaTest {
     }
 
     private static void seas() {
-        FourLodgers x = Due.written("s3p0f5g1;50,23,05;11,14,41,44,22");
+        FourLodgers x = Due.written("s3p0f5g1;23,50,05;11,14,41,44,22");
         due.is("sea()", x.sea(), 3);
         due.is("count(9) behind sea()", x.count(9), 0);
         due.is("count(10) behind sea()", x.count(10), 1);
@@ -156,9 +156,9 @@ public final class SeaTest {
         x.hire();
         x.see(0, 0, true);
         x.ail(0, 40);
-        x.sail(1, 2);
         x.image();
         x.day();
+        due.is("sail(0, 2)", x.sail(0, 2), 21);
         Due.write(x, "l0l0l0l0;33;00");
         due.is("another sea()", x.sea(), 1);
         int[] counts = {1, 1, 0, 0, 4, 0, 0, 0, 0, 0, 2};
@@ -249,6 +249,13 @@ public final class SeaTest {
         y.see(1, 4, false);
         due.is("kinds, none", y.lodger(1, 3), 0);
         due.is("look, none", y.lodger(1, 4), NONE);
+        FourLodgers z = Due.sea("l0l0l0l0;50;11");
+        z.ail(0, 20);
+        z.see(0, 0, false);
+        due.is("kinds that stay in bed", z.lodger(0, 3), 1 + 2 + 4);
+        due.is("look, on the last day", z.lodger(0, 4), 20);
+        z.ail(0, 21);
+        due.is("look, no day tells", z.lodger(0, 4), 0);
     }
 
     private static void kindsTaken() {

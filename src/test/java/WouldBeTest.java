@@ -66,6 +66,10 @@ public final class WouldBeTest {
         way(shut, 0, 2, NONE);
         shut.hire();
         way(shut, 0, 2, 5, 5, 5, 5, 4, 0);
+        FourLodgers pocket = Due.sea("l0l0l0l0;00;01,11,20");
+        way(pocket, 0, 14, NONE);
+        pocket.hire();
+        way(pocket, 0, 14, 4, 2, 0, 2, 4);
         FourLodgers x2 = Due.sea("l0l0l0l0;00,22;55");
         due.is("what 9", x2.soon(0, 1, 9), OUTSIDE);
         due.is("what 18", x2.soon(0, 1, 18), OUTSIDE);
@@ -140,6 +144,9 @@ public final class WouldBeTest {
         due.is("west", x.needed(1, 13), 3);
         due.is("both, the less", x.needed(0, 7), 1);
         due.is("never, whoever is ill", x.needed(0, 35), 0);
+        // ill for 6 days the poet alone, for 8 days the poet again would be waited for longer than the north
+        FourLodgers seven = Due.sea("l0p0l0l0;10;55");
+        due.is("7 days", seven.needed(0, 1), 0);
         FourLodgers longer = Due.sea("l9l0l0l0;10;55");
         due.is("not less than he is", longer.needed(0, 0), 0);
         FourLodgers family = Due.sea("l0f0l0l0;00;55");
