@@ -1,5 +1,3 @@
-import java.util.Arrays;
-
 /**
  * The four letters of the compass are lodgers, and ships sail only by one who is up.
  * The promises are numbered in DOC.md; every row is made once, in a constructor, and used again by all calls.
@@ -724,25 +722,17 @@ public final class FourLodgers {
             seenLodger = new int[MOST_SEEN];
             seenDay = new int[MOST_SEEN];
             seenUp = new int[MOST_SEEN];
-            clear();
         }
 
-        private void clear() {
-            Arrays.fill(kinds, PLAIN);
-            Arrays.fill(illUntil, 0);
-            Arrays.fill(cells, 0);
+        void begin(Draft draft) {
+            System.arraycopy(draft.kinds, 0, kinds, 0, LODGERS);
+            System.arraycopy(draft.ills, 0, illUntil, 0, LODGERS);
+            System.arraycopy(draft.ships, 0, cells, 0, MOST_SHIPS);
             sailedToday = 0;
             today = 0;
             hired = false;
             timesSailed = 0;
             seenCount = 0;
-        }
-
-        void begin(Draft draft) {
-            clear();
-            System.arraycopy(draft.kinds, 0, kinds, 0, LODGERS);
-            System.arraycopy(draft.ills, 0, illUntil, 0, LODGERS);
-            System.arraycopy(draft.ships, 0, cells, 0, MOST_SHIPS);
         }
 
         void copyFrom(Moment other) {

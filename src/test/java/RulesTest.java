@@ -101,13 +101,9 @@ public final class RulesTest {
 
     private static void text(String source) {
         String[] banned = {"\\bthrow\\b", "\\btry\\b", "\\bcatch\\b", "\\bsynchronized\\b", "\\bassert\\b", "->", "::",
-            "\\bstatic\\s*\\{", "Exact\\b", "\\bhashCode\\b", "\\btoString\\b", "\\bpackage\\b", "\\bvar\\b", "\\bSystem\\.(?!arraycopy)"};
+            "\\bstatic\\s*\\{", "Exact\\b", "\\bhashCode\\b", "\\btoString\\b", "\\bpackage\\b", "\\bimport\\b", "\\bvar\\b", "\\bSystem\\.(?!arraycopy)"};
         for (String word : banned) {
             due.isTrue("not in the class: " + word, !Pattern.compile(word).matcher(source).find());
-        }
-        Matcher imports = Pattern.compile("\\bimport\\s+([\\w.]+);").matcher(source);
-        while (imports.find()) {
-            due.isTrue("import " + imports.group(1), imports.group(1).equals("java.util.Arrays"));
         }
         // an object that a call makes is never given back in the one room of a run
         Matcher made = Pattern.compile("(\\w+) = new (\\w+)[(\\[]").matcher(source);
