@@ -106,19 +106,25 @@ public final class RulesTest {
             due.isTrue("not in the class: " + word, !Pattern.compile(word).matcher(source).find());
         }
         // an object that a call makes is never given back in the one room of a run
-        Matcher made = Pattern.compile("(\\w+) = new (\\w+)[(\\[]").matcher(source);
-        int rows = 0;
-        while (made.find()) {
-            rows++;
+        due.is("what is made, in constructors alone", count("\\bnew\\b", source), inConstructors(source));
+        due.is("copies made by the library", count("\\.clone\\(|\\bcopyOf|\\btoCharArray\\b|\\bsubstring\\b", source), 0);
+        due.is("texts joined", count("\"\\s*\\+|\\+\\s*\"", source), 0);
+    }
+
+    private static int count(String pattern, String source) {
+        Matcher found = Pattern.compile(pattern).matcher(source);
+        int times = 0;
+        while (found.find()) {
+            times++;
         }
-        due.is("what is made, in constructors alone", rows, inConstructors(source));
+        return times;
     }
 
     private static int inConstructors(String source) {
         Matcher bodies = Pattern.compile("(?m)^ +(?:public )?(?:FourLodgers|Page|Draft|Chart|Moment|Pilot)\\(\\) \\{([^}]*)\\}").matcher(source);
         int rows = 0;
         while (bodies.find()) {
-            rows += bodies.group(1).split("\\bnew\\b", -1).length - 1;
+            rows += count("\\bnew\\b", bodies.group(1));
         }
         return rows;
     }
